@@ -1,6 +1,6 @@
 /**
  * Where the tape begins: a roll of tape whose end has lain down on itself, and those who seek it.
- * The words in capitals are those of the document; no call throws, refusals are answers.
+ * The words in capitals are those of the document; every refusal is an answer.
  */
 public final class TapeEnd {
     public static final int NONE = -1000000, BAD = -1000001, STATE = -1000002, FULL = -1000003;

@@ -155,10 +155,10 @@ public final class TapeEndPromises {
         due("what is refused stays", x.copy(0, 39, 0, 0, 1), 1);
         due("a new ROW in place of it", x.row(0, 1, 2), 2);
         due("the old PLACE is gone", x.set(0, 2, 1), PLACE);
-        TapeEnd y = with(BARE + "u1,1;");
+        TapeEnd y = with("o4,5,3,0;p1,1,1,1;u1,1;");
         items(y, 0, 9, 9);
         y.row(0, 2, 2);
-        due("ITEMS are 0 at first", y.rule(0, 0, 2, 2, 2), 2);
+        due("ITEMS are 0 at first: on by one, twice", y.rule(0, 0, 2, 3, 2), 13);
     }
 
     private static void promise3() {
@@ -410,6 +410,13 @@ public final class TapeEndPromises {
         due("exactly", y.likelihood(3), 10000000000L);
         y.undo();
         due("room again", y.touch(0, 0), 10);
+        TapeEnd z = with("o12,9,20,7;p1,1,1,1,1,1,1,1,1,1,1,1;u5,5;");
+        z.touch(0, 0);
+        due("none behind 12 PLACES", z.likelihood(12), 70);
+        z.touch(0, 0);
+        z.undo();
+        due("none behind 12 PLACES, undone", z.likelihood(12), 70);
+        due("the last of 12", z.likelihood(11), 10);
     }
 
     private static void promise11() {
@@ -616,6 +623,7 @@ public final class TapeEndPromises {
         // b8 from 2 on, in 2 rounds: places 2 3 0 1 by 3 4 1 2; each (80 (1 + 2k) + 16 (9 + 2k) + 4 * 15) / 100.
         // k 0: 284, 1: 476, 2: 668, 3: 860: 852 + 1904 + 668 + 1720 + 2 * 1500 = 8144 of 1200.
         dueMean(x, 2, 2, 1, 2, 509, 75);
+        dueMean(x, 3, 1, -1, 3, 23, 1);
         due("mean(4, ..)", x.mean(4, 0, 1, 1, 0), BAD);
         due("mean(-1, ..)", x.mean(-1, 0, 1, 1, 0), BAD);
         due("place 4", x.mean(0, 4, 1, 1, 0), BAD);
@@ -641,6 +649,7 @@ public final class TapeEndPromises {
         // Against is less sure: from 2 on 3 + 12 + 5 + 14 = 34; against from 3 on 0.9 * 30 + 0.1 * 70 = 34, too.
         due("begin(1, 1), of several the first", x.begin(1, 1), 4);
         due("begin(3, 1)", x.begin(3, 1), 7);
+        due("from 0 on backwards", with("o4,1,0,0;p9,1,2,5;u10,10;").begin(0, 1), 1);
         TapeEnd y = with("o4,1,0,0;p1,2,3,4;u10,0;u0,10;u0,0;");
         due("WAY 1 alone", y.begin(0, 1), 4);
         due("WAY -1 alone", y.begin(1, 3), 7);
@@ -739,6 +748,8 @@ public final class TapeEndPromises {
         due("a second by two", y.pays(0, 1), 2);
         due("49 by 98", y.pays(0, 49), 98);
         due("more than 99 of them", y.pays(0, 50), NONE);
+        // 3 + 2 + 3 + 4 of 6: a second each.
+        due("all 99 of them", with("o4,0,0,0;p3,1,1,1;u10,10;").pays(0, 99), 99);
     }
 
     private static void promise28() {
@@ -831,6 +842,8 @@ public final class TapeEndPromises {
         items(x, 0, -1);
         due("-1 is no word", x.rule(0, 0, 1, 1, 0), BAD);
         due("nothing changed", x.nail(3), 0);
+        items(x, 0, 3, 3, 3, 3, 0, 3, 3, 3);
+        due("8 words", x.rule(0, 0, 8, 6, 2), 7);
     }
 
     private static void promise30() {
@@ -857,6 +870,11 @@ public final class TapeEndPromises {
         z.go(3);
         z.over();
         due("WEIGHTS, not LIKELIHOODS, from 0 on", z.search(0, 5, 0), 4);
+        TapeEnd unsure = with(BARE + "u1,10;u10,1;");
+        due("felt at the 40th touch", unsure.search(0, 13, 0), 40);
+        due("felt at the 40th touch", unsure.search(0, 13, 1), 1);
+        due("it would be the 41st", unsure.search(0, 520, 0), NONE);
+        due("the greatest SEED", unsure.search(1, 999999, 0), 1);
         due("seeker", x.search(3, 1, 0), BAD);
         due("seeker", x.search(-1, 1, 0), BAD);
         due("seed 0", x.search(0, 0, 0), BAD);
