@@ -870,6 +870,11 @@ public final class TapeEndPromises {
         z.go(3);
         z.over();
         due("WEIGHTS, not LIKELIHOODS, from 0 on", z.search(0, 5, 0), 4);
+        // 16807 by 21 rests 7, 33614 by 21 rests 14, which is MISSING.
+        TapeEnd twelve = with("o12,0,0,9;p1,1,1,1,1,1,1,1,1,1,1,1;u10,10;");
+        due("the eighth of 12 PLACES", twelve.search(0, 1, 0), 8);
+        due("none of 12 PLACES", twelve.search(0, 2, 0), NONE);
+        // These two SEEDS were found by drawing, apart from the class.
         TapeEnd unsure = with(BARE + "u1,10;u10,1;");
         due("felt at the 40th touch", unsure.search(0, 13, 0), 40);
         due("felt at the 40th touch", unsure.search(0, 13, 1), 1);
