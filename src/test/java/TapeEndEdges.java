@@ -385,7 +385,8 @@ public final class TapeEndEdges {
             copy(0, -1, 1, 0, 1) = STORE  copy(0, 0, 1, 0, -1) = STORE  copy(0, 0, 1, 2, 1) = STORE
             copy(0, -1, 0, 0, 1) = PLACE
             read $FOUR = 4
-            whose(2, -1, 1) = NULL  whose(0, -1, 1) = PLACE  rule(0, 2, 8, 1, 0) = NULL  rule(0, 0, 8, 1, 0) = PLACE""");
+            whose(2, -1, 1) = NULL  whose(0, -1, 1) = PLACE  rule(0, 2, 8, 1, 0) = NULL
+            rule(0, 0, 8, 1, 0) = PLACE""");
     }
 
     // ---- 1: ROWS
@@ -571,11 +572,14 @@ public final class TapeEndEdges {
         faulty("PLACES: 4 to 12", "o3,0,0,0;p1,1,1;", 2, 1);
         faulty("PLACES: 4 to 12", "o0,0,0,0;p;", 2, 1);
         faulty("PLACES: 4 to 12", "o13,0,0,0;p1,1,1,1,1,1,1,1,1,1,1,1,1;", 2, 1);
-        edge("PLACES: 4 to 12", "read $BARE = 4  count(1) = 4  read o12,0,0,0;p1,1,1,1,1,1,1,1,1,1,1,1; = 12  count(1) = 12");
+        edge("PLACES: 4 to 12", """
+            read $BARE = 4  count(1) = 4  read o12,0,0,0;p1,1,1,1,1,1,1,1,1,1,1,1; = 12  count(1) = 12""");
         faulty("STEP: 0 to 9 seconds", "o4,10,0,0;p1,1,1,1;", 2, 3);
-        edge("STEP: 0 to 9 seconds", "read o4,9,0,0;p1,1,1,1; = 4  go(1) = 1  nail(2) = 9  read $BARE = 4  go(1) = 1  nail(2) = 0");
+        edge("STEP: 0 to 9 seconds", """
+            read o4,9,0,0;p1,1,1,1; = 4  go(1) = 1  nail(2) = 9  read $BARE = 4  go(1) = 1  nail(2) = 0""");
         faulty("OVER: 0 to 20 seconds", "o4,0,21,0;p1,1,1,1;", 2, 5);
-        edge("OVER: 0 to 20 seconds", "read o4,0,20,0;p1,1,1,1; = 4  over() = -1  nail(2) = 20  read $BARE = 4  over() = -1  nail(2) = 0");
+        edge("OVER: 0 to 20 seconds", """
+            read o4,0,20,0;p1,1,1,1; = 4  over() = -1  nail(2) = 20  read $BARE = 4  over() = -1  nail(2) = 0""");
         faulty("MISSING: 0 to 9", "o4,0,0,10;p1,1,1,1;", 2, 7);
         edge("MISSING: 0 to 9", "read o4,0,0,9;p1,1,1,1; = 4  likelihood(4) = 9  read $BARE = 4  likelihood(4) = 0");
         faulty("1 to 9 each: WEIGHT", "o4,0,0,0;p0,1,1,1;", 2, 10);
@@ -654,7 +658,8 @@ public final class TapeEndEdges {
     }
 
     private static void newRoll() {
-        edge("none at first", "count(1) = 0  count(2) = 0  count(3) = 0  nail(0) = STATE  surest() = STATE  image(0) = STATE");
+        edge("none at first", """
+            count(1) = 0  count(2) = 0  count(3) = 0  nail(0) = STATE  surest() = STATE  image(0) = STATE""");
         edge("A ROLL that is read stands in place of the one before: the nail", """
             read $SIX = 6  go(5) = 5  over() = -1  touch(0, 1) = 1  fold(3) = NONE
             read $FOUR = 4  nail(0) = 0  nail(1) = 1  nail(2) = 0  nail(3) = 0  nail(4) = 0  nail(5) = NONE""");
@@ -958,10 +963,14 @@ public final class TapeEndEdges {
             whose(0, 2, 1) = BAD  read $FOUR = 4  whose(0, 0, 1) = BAD""");
         edge("WHOSE: these go on by each such TOUCH, even if all are 0", """
             read $BARE+m10,10;u10,10; = 4  row(0, 0, 6) = 6  set(0, 1, 1)  set(0, 2, 2)  set(0, 3, 3)  set(0, 5, 1)
-            whose(0, 0, 6) = 3  likelihood(0) = 1  nail(3) = 0  set(0, 5, 2)  whose(0, 0, 6) = 0  whose(0, 0, 5) = 3""");
+            whose(0, 0, 6) = 3  likelihood(0) = 1  nail(3) = 0  set(0, 5, 2)  whose(0, 0, 6) = 0
+            whose(0, 0, 5) = 3""");
         edge("WHOSE: the nail being at the first, wherever it is now; nothing felt, whatever was; 10 TOUCHES", """
             read $SIX = 6  10 x touch(0, 1) = 10  go(3) = 3  row(0, 0, 6) = 6  set(0, 1, 1)  set(0, 2, 2)  set(0, 3, 3)
             set(0, 4, 4)  set(0, 5, 5)  whose(0, 0, 6) = 7  whose(0, 5, 1) = 15  nail(3) = 10  nail(0) = 3""");
+        edge("WHOSE: each such TOUCH with its ridge", """
+            read $SIX = 6  row(0, 0, 4) = 4  set(0, 1, 5)  set(0, 2, 4)  set(0, 3, 2)  whose(0, 0, 4) = 8
+            set(0, 3, 0)  whose(0, 0, 4) = 0  whose(0, 0, 3) = 8""");
         edge("WHOSE: no SEEKERS, no bits", """
             read $BARE = 4  row(0, 0, 1) = 1  whose(0, 0, 1) = 0""");
     }
@@ -971,10 +980,12 @@ public final class TapeEndEdges {
             read $FOUR = 4  row(0, 0, 8) = 8  rule(0, 0, 0, 1, 0) = BAD  rule(0, 0, 9, 1, 0) = BAD
             rule(0, 0, 1, 0, 0) = BAD  rule(0, 0, 1, 7, 0) = BAD  rule(0, 0, 1, 1, -1) = BAD  rule(0, 0, 1, 1, 3) = BAD
             rule(-1, 0, 1, 1, 0) = BAD  rule(4, 0, 1, 1, 0) = BAD  rule(0, -1, 1, 1, 0) = BAD
-            rule(0, 8, 1, 1, 0) = BAD  rule(0, 7, 1, 1, 0) = NULL  rule(0, 0, 8, 6, 2) = 11  rule(0, 0, 1, 1, 2) = 1""");
+            rule(0, 8, 1, 1, 0) = BAD  rule(0, 7, 1, 1, 0) = NULL  rule(0, 0, 8, 6, 2) = 11
+            rule(0, 0, 1, 1, 2) = 1""");
         edge("RULE: fewer words than n: PLACE", """
             read $FOUR = 4  row(0, 0, 7) = 7  rule(0, 0, 7, 1, 2) = 1  rule(0, 0, 8, 1, 2) = PLACE  status() = 2
-            row(1, 0, 0) = 0  rule(0, 1, 1, 1, 2) = PLACE  row(2, 0, 40) = 40  rule(0, 2, 8, 1, 2) = 1  status() = 0""");
+            row(1, 0, 0) = 0  rule(0, 1, 1, 1, 2) = PLACE  row(2, 0, 40) = 40  rule(0, 2, 8, 1, 2) = 1
+            status() = 0""");
         edge("RULE: then BAD: an ITEM not 0 to 3", """
             read $FOUR = 4  row(0, 2, 8) = 8  set(0, 0, 3) = 3  set(0, 7, 4) = 4  rule(0, 0, 7, 6, 2) = 10
             rule(0, 0, 8, 6, 2) = BAD  rule(0, 0, 8, 1, 2) = BAD  set(0, 7, -1) = -1  rule(0, 0, 8, 6, 2) = BAD
@@ -1018,7 +1029,8 @@ public final class TapeEndEdges {
             search(0, 1, 0) = 12  search(0, 1, 1) = 0  search(0, 999999, 0) = 12  search(0, 999999, 1) = 0""");
         edge("SEARCH: the end, a ridge at PLACE 0, at the last PLACE; round to PLACE 0 and on", """
             read $TWELVE+r0,1;r11,9;u5,0; = 12  search(0, 13, 0) = 1  search(0, 13, 1) = 0  search(0, 6, 0) = 12
-            search(0, 6, 1) = 1  search(0, 9, 0) = 24  search(0, 9, 1) = 1  search(0, 11, 0) = 24  search(0, 11, 1) = 0""");
+            search(0, 6, 1) = 1  search(0, 9, 0) = 24  search(0, 9, 1) = 1  search(0, 11, 0) = 24
+            search(0, 11, 1) = 0""");
         edge("SEARCH: NONE (both): neither in 40 touches", """
             read $BARE+u1,10; = 4  search(0, 13, 0) = 40  search(0, 13, 1) = 1  search(0, 520, 0) = NONE
             search(0, 520, 1) = NONE  search(0, 1, 0) = 4  search(0, 3, 0) = 22""");
@@ -1035,7 +1047,8 @@ public final class TapeEndEdges {
     private static void images() {
         edge("An IMAGE (0, 1) is kept of the ROLL. BAD; STATE: no ROLL", """
             image(0) = STATE  image(1) = STATE  image(-1) = BAD  image(2) = BAD  read $SIX = 6  image(-1) = BAD
-            image(2) = BAD  restore(0) = STATE  restore(1) = STATE  image(1) = 1  restore(0) = STATE  restore(1) = 1""");
+            image(2) = BAD  restore(0) = STATE  restore(1) = STATE  image(1) = 1  restore(0) = STATE
+            restore(1) = 1""");
         edge("STATE: none was kept: of either; BAD", """
             restore(0) = STATE  restore(1) = STATE  restore(-1) = BAD  restore(2) = BAD  read $SIX = 6  go(1) = 1
             restore(0) = STATE  count(4) = 1  image(0) = 1  count(4) = 1  restore(1) = STATE  restore(2) = BAD
