@@ -969,8 +969,8 @@ public final class TapeEndEdges {
             read $SIX = 6  10 x touch(0, 1) = 10  go(3) = 3  row(0, 0, 6) = 6  set(0, 1, 1)  set(0, 2, 2)  set(0, 3, 3)
             set(0, 4, 4)  set(0, 5, 5)  whose(0, 0, 6) = 7  whose(0, 5, 1) = 15  nail(3) = 10  nail(0) = 3""");
         edge("WHOSE: each such TOUCH with its ridge", """
-            read $SIX = 6  row(0, 0, 4) = 4  set(0, 1, 5)  set(0, 2, 4)  set(0, 3, 2)  whose(0, 0, 4) = 8
-            set(0, 3, 0)  whose(0, 0, 4) = 0  whose(0, 0, 3) = 8""");
+            read $BARE+r0,9;m5,5; = 4  row(0, 0, 3) = 3  set(0, 1, 1)  whose(0, 0, 3) = 1  set(0, 2, 2)
+            whose(0, 0, 3) = 0  read $BARE+m5,5; = 4  whose(0, 0, 3) = 1  set(0, 2, 0)  whose(0, 0, 3) = 0""");
         edge("WHOSE: no SEEKERS, no bits", """
             read $BARE = 4  row(0, 0, 1) = 1  whose(0, 0, 1) = 0""");
     }
